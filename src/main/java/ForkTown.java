@@ -1461,7 +1461,6 @@ public final class ForkTown {
 
         /** What the letters stand for when the law is asked of a half. */
         private void speakOf(Half half) {
-            Arrays.fill(letters, 0);
             letters['h' - 'a'] = people.hour;
             letters['i' - 'a'] = half.one;
             letters['j' - 'a'] = half.number;
@@ -1471,6 +1470,11 @@ public final class ForkTown {
             letters['m' - 'a'] = Integer.bitCount(half.known);
             letters['o' - 'a'] = half.coins;
             letters['k' - 'a'] = people.hour - half.born;
+            letters['r' - 'a'] = 0;
+            letters['q' - 'a'] = 0;
+            letters['l' - 'a'] = 0;
+            letters['f' - 'a'] = 0;
+            letters['y' - 'a'] = 0;
         }
 
         int gladness(Half half, int r) {
@@ -1587,9 +1591,13 @@ public final class ForkTown {
         /** Takes living halves of one one from the tape, in the least row; false: no such ones. */
         boolean take(Tape tape, int n, People people) {
             size = 0;
+            int first = tape.byteAt(0);
             for (int i = 0; i < n && i < row.length; i++) {
                 int j = tape.byteAt(i);
-                if (!people.isLiving(j)) {
+                if (!people.isLiving(first) || !people.isLiving(j)) {
+                    return false;
+                }
+                if (people.all[j].one != people.all[first].one) {
                     return false;
                 }
                 int at = size;
@@ -1602,9 +1610,6 @@ public final class ForkTown {
                 }
                 row[at] = j;
                 size++;
-                if (people.all[j].one != people.all[row[0]].one) {
-                    return false;
-                }
             }
             return size >= 2;
         }
