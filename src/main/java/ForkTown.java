@@ -1128,9 +1128,11 @@ public final class ForkTown {
         private static final String LETTERS = "hijzpnmokrqlfy";
 
         private final Tape tape;
+        private final int[] text = new int[241];
         private Law law;
         private int end = 0;
         private int at = 0;
+        private int next = NONE;
 
         LawReader(Tape tape, Law law) {
             this.tape = tape;
@@ -1139,9 +1141,14 @@ public final class ForkTown {
 
         int read(int n, Law into) {
             law = into;
-            end = n;
-            at = 0;
             law.clear();
+            end = Math.max(0, Math.min(n, text.length - 1));
+            for (int i = 0; i < end; i++) {
+                text[i] = tape.byteAt(i);
+            }
+            text[end] = NONE;
+            at = 0;
+            next = text[0];
             for (int c = 0; c <= Law.MOST_CLAUSES; c++) {
                 int fault = clause();
                 if (fault != 0 || at == end) {
@@ -1155,25 +1162,20 @@ public final class ForkTown {
             return faultAt(4, at);
         }
 
-        private int peek() {
-            return at < end ? tape.byteAt(at) : NONE;
+        private void advance() {
+            at = Math.min(at + 1, end);
+            next = text[at];
         }
 
         private boolean isOneOf(String signs) {
-            int found = peek();
-            return found >= 0 && signs.indexOf((char) found) >= 0;
-        }
-
-        private boolean isDigit() {
-            int found = peek();
-            return found >= '0' && found <= '9';
+            return next >= 0 && signs.indexOf((char) next) >= 0;
         }
 
         private int sign(int wanted) {
-            if (peek() != wanted) {
+            if (next != wanted) {
                 return faultAt(1, at);
             }
-            at++;
+            advance();
             return 0;
         }
 
@@ -1185,9 +1187,9 @@ public final class ForkTown {
                 return faultAt(4, at);
             }
             int c = law.clauses;
-            law.letter[c] = peek();
+            law.letter[c] = next;
             law.worthFrom[c] = law.size;
-            at++;
+            advance();
             int fault = 0;
             if (law.letter[c] == 'e') {
                 law.add(Law.NUMBER, 1);
@@ -1202,7 +1204,7 @@ public final class ForkTown {
             return fault != 0 ? fault : sign(')');
         }
 
-        /** Orders of one kind that do not know yet where to leap to, from a place on. */
+        /** Orders of one kind, from a place on, that do not know yet where to leap to: here. */
         private void land(int begin, int what) {
             for (int i = begin; i < law.size; i++) {
                 if (law.order[i] == what && law.operand[i] < 0) {
@@ -1214,8 +1216,8 @@ public final class ForkTown {
         private int anyOf(int open) {
             int begin = law.size;
             int fault = allOf(open);
-            while (fault == 0 && at < end && isOneOf("|")) {
-                at++;
+            while (fault == 0 && at < end && next == '|') {
+                advance();
                 law.add(Law.OR, NONE);
                 fault = allOf(open);
             }
@@ -1226,8 +1228,8 @@ public final class ForkTown {
         private int allOf(int open) {
             int begin = law.size;
             int fault = piece(open);
-            while (fault == 0 && at < end && isOneOf("&")) {
-                at++;
+            while (fault == 0 && at < end && next == '&') {
+                advance();
                 law.add(Law.AND, NONE);
                 fault = piece(open);
             }
@@ -1236,26 +1238,19 @@ public final class ForkTown {
         }
 
         private int piece(int open) {
-            int found = peek();
-            if (found != '!' && found != '(') {
-                return comparison(open);
+            boolean isNot = next == '!';
+            if (isNot || next == '(') {
+                if (open >= MOST_OPEN) {
+                    return faultAt(5, at);
+                }
+                advance();
+                int fault = isNot ? piece(open + 1) : anyOf(open + 1);
+                if (isNot) {
+                    law.add(Law.NOT, 0);
+                    return fault;
+                }
+                return fault != 0 ? fault : sign(')');
             }
-            if (open >= MOST_OPEN) {
-                return faultAt(5, at);
-            }
-            at++;
-            int fault = found == '!' ? piece(open + 1) : anyOf(open + 1);
-            if (fault != 0) {
-                return fault;
-            }
-            if (found == '(') {
-                return sign(')');
-            }
-            law.add(Law.NOT, 0);
-            return 0;
-        }
-
-        private int comparison(int open) {
             int fault = sum(open);
             if (fault != 0) {
                 return fault;
@@ -1263,8 +1258,8 @@ public final class ForkTown {
             if (!isOneOf("<>=")) {
                 return faultAt(1, at);
             }
-            int how = peek();
-            at++;
+            int how = next;
+            advance();
             fault = sum(open);
             law.add(how, 0);
             return fault;
@@ -1272,9 +1267,9 @@ public final class ForkTown {
 
         private int sum(int open) {
             int fault = product(open);
-            while (fault == 0 && at < end && isOneOf("+-")) {
-                int how = peek();
-                at++;
+            while (fault == 0 && at < end && (next == '+' || next == '-')) {
+                int how = next;
+                advance();
                 fault = product(open);
                 law.add(how, 0);
             }
@@ -1284,8 +1279,8 @@ public final class ForkTown {
         private int product(int open) {
             int fault = factor(open);
             while (fault == 0 && at < end && isOneOf("*/%")) {
-                int how = peek();
-                at++;
+                int how = next;
+                advance();
                 fault = factor(open);
                 law.add(how, 0);
             }
@@ -1293,33 +1288,33 @@ public final class ForkTown {
         }
 
         private int factor(int open) {
-            if (isDigit()) {
+            if (next >= '0' && next <= '9') {
                 return number();
             }
             if (isOneOf(LETTERS)) {
-                law.add(Law.LETTER, peek() - 'a');
-                at++;
+                law.add(Law.LETTER, next - 'a');
+                advance();
                 return 0;
             }
-            if (peek() != '[') {
+            if (next != '[') {
                 return faultAt(1, at);
             }
             if (open >= MOST_OPEN) {
                 return faultAt(5, at);
             }
-            at++;
+            advance();
             int fault = sum(open + 1);
             return fault != 0 ? fault : sign(']');
         }
 
         private int number() {
             int number = 0;
-            for (int digits = 0; digits < 5 && isDigit(); digits++) {
-                number = 10 * number + peek() - '0';
-                at++;
-            }
-            if (isDigit()) {
-                return faultAt(2, at);
+            for (int digits = 0; next >= '0' && next <= '9' && at < end; digits++) {
+                if (digits == 5) {
+                    return faultAt(2, at);
+                }
+                number = 10 * number + next - '0';
+                advance();
             }
             law.add(Law.NUMBER, number);
             return 0;
