@@ -16,6 +16,8 @@ public final class ModelTest {
         for (int run = from; run < from + runs && wrong < 5; run++) {
             if (run % 5 == 0) {
                 new Run(run).goByPlans();
+            } else if (run % 5 == 1) {
+                new Run(run).goByCrowds();
             } else {
                 new Run(run).go();
             }
@@ -1224,6 +1226,52 @@ public final class ModelTest {
                 int n = some(1, 9);
                 due("hours(" + n + ")", town.hours(n), model.hours(n));
             }
+        }
+
+        /** A town of long roads, where one becomes many; they are joined in all orders, and die in one night. */
+        void goByCrowds() {
+            int before = wrong;
+            for (int r = 0; r < 32; r++) {
+                int to = (r % 16 + some(1, 15)) % 16;
+                int length = some(3, 9);
+                due("road(" + r + ", " + r % 16 + ", " + to + ", " + length + ")", town.road(r, r % 16, to, length), model.road(r, r % 16, to, length));
+            }
+            int night = some(20, 50);
+            giveLaw("c9(1=1);e(" + condition(1) + ");x10(h>" + night + "&j>0);x10(h>" + (night + 12) + "&j%2=0)");
+            for (int one = 0; one < ones; one++) {
+                due("comes(" + one + ", " + one + ")", town.comes(one, one), model.comes(one, one));
+            }
+            while (model.now.hour < night && wrong == before) {
+                due("hours(1)", town.hours(1), model.hours(1));
+                for (int i = 0; i < 6; i++) {
+                    int j = livingHalf();
+                    int fact = some(0, 3);
+                    boolean so = random.nextBoolean();
+                    due("learns(" + j + ", " + fact + ", " + so + ")", town.learns(j, fact, so), model.learns(j, fact, so));
+                }
+                joinedOnes();
+            }
+            for (int i = 0; i < 40 && wrong == before; i++) {
+                if (i % 4 == 0) {
+                    giveLaw("e(" + condition(2) + ")");
+                }
+                joinedOnes();
+            }
+            giveLaw("x10(h>" + night + "&j>0)");
+            for (int i = 0; i < 20 && wrong == before; i++) {
+                due("hours(1)", town.hours(1), model.hours(1));
+                for (int j = 0; j < model.now.all.size(); j++) {
+                    due("half(" + j + ", 8)", town.half(j, 8), model.half(j, 8));
+                }
+            }
+            lookAtAll();
+        }
+
+        void giveLaw(String t) {
+            emptyTape();
+            feedText(t);
+            told.add("// " + t);
+            due("law(" + t.length() + ")", town.law(t.length()), model.law(t.length()));
         }
 
         void planFor(int one, int bits, int n) {

@@ -310,6 +310,24 @@ public final class PromiseTests {
             many.append(";e(h=0)");
         }
         due("sixteen", law(t, many.toString()), 16);
+        t = town("", 0, 0, 1, 1);
+        t.comes(0, 0);
+        for (int i = 1; i < 60; i++) {
+            due("one law behind another", law(t, "c" + i + "+1-1(1=1&2=2&[3]=3)"), 1);
+            due("asked", t.gladly(0, 0), i);
+        }
+        StringBuilder all = new StringBuilder("c7(1=1");
+        StringBuilder any = new StringBuilder("c8(1=2");
+        while (all.length() < 234) {
+            all.append("&1=1");
+            any.append("|1=2");
+        }
+        due("many pieces", law(t, all + ")"), 1);
+        due("many pieces", t.gladly(0, 0), 7);
+        due("many parts", law(t, any + ")"), 1);
+        due("many parts", t.gladly(0, 0), 0);
+        due("many parts", law(t, any.substring(0, 226) + "|1=1)"), 1);
+        due("many parts", t.gladly(0, 0), 8);
     }
 
     private static void lawFaults() {
@@ -573,6 +591,16 @@ public final class PromiseTests {
         t.comes(0, 0);
         t.hours(1);
         due("another must be above 0", t.count(2), 1);
+        t = town("c1(1=1)", 0, 0, 1, 2, 1, 0, 2, 3);
+        t.comes(0, 0);
+        t.hours(1);
+        due("1 is above 0", t.count(2), 2);
+        for (char c : "rqlfy".toCharArray()) {
+            t = town("c9-r(1=1);d9*" + c + "(1=1)", 1, 0, 1, 2, 3, 0, 2, 3);
+            t.comes(0, 0);
+            t.hours(1);
+            due("of d it is not told: " + c, t.count(2), 1);
+        }
         t = town("c4(r=7);c6(r>0)", 5, 0, 1, 1, 6, 0, 2, 1, 7, 0, 3, 1);
         t.comes(0, 0);
         t.hours(1);
@@ -903,6 +931,7 @@ public final class PromiseTests {
         due("never", t.plan(0, 16, 48, 1), -2);
         due("no one", t.plan(4, 1, 1, 0), -1);
         due("no one", t.plan(-1, 1, 1, 0), -1);
+        due("all places", t.plan(0, 65535, 1, 0), -2);
         due("no places", t.plan(0, -1, 1, 0), -1);
         due("no places", t.plan(0, 65536, 1, 0), -1);
         due("no n", t.plan(0, 1, 0, 0), -1);
@@ -935,6 +964,28 @@ public final class PromiseTests {
         t.comes(0, 7);
         due("the eighth", t.plan(0, 1 << 15 | 1 << 8, 48, 0), 4);
         due("needs no doubt", t.plan(0, 1 << 15 | 1 << 8, 48, 1), 0);
+        for (int p = 0; p < 8; p++) {
+            t = town("c9-r%2(1=1)", 20, 8, 9, 1, 21, 8, 10, 1, 22, 9, 11, 1, 24, 10, 11, 1);
+            for (int q = 0; q < 8; q++) {
+                t.road(q, q, 12, 1);
+                if (q != p) {
+                    t.road(10 + q, q, 13, 1);
+                }
+            }
+            t.comes(0, 8);
+            due("the eighth fork", t.plan(0, 1 << 10, 9, 0), 3);
+            due("the eighth fork", t.plan(0, 1 << 10, 9, 1), 1 << 8);
+            t.road(10 + p, p, 13, 1);
+            due("the ninth fork", t.plan(0, 1 << 10, 9, 0), -2);
+        }
+        // the fewest hours, though by greater bits: with doubt at 0 it takes 6, at 1 only 5
+        t = town("c9-r%2(1=1)", 0, 0, 1, 1, 1, 0, 2, 1, 2, 1, 3, 1, 3, 1, 4, 1, 4, 2, 4, 2, 6, 3, 5, 2, 8, 4, 5, 2);
+        t.comes(0, 0);
+        due("at 1 alone", t.plan(0, 1 << 4, 9, 0), 5);
+        due("at 1 alone", t.plan(0, 1 << 4, 9, 1), 2);
+        due("at 0 alone", t.plan(0, 1 << 2, 9, 0), 6);
+        due("at 0 alone", t.plan(0, 1 << 2, 9, 1), 1);
+        due("most", t.plan(0, 1 << 2, 9, 2), 2);
         // the fewest hours, of like ones the least bits
         t = town("c9-r(1=1)", 0, 0, 1, 2, 1, 0, 2, 1, 2, 1, 3, 1, 3, 2, 3, 1, 4, 2, 3, 2, 5, 1, 3, 2);
         t.comes(0, 0);
@@ -1000,6 +1051,18 @@ public final class PromiseTests {
         due("the tape stays", t.count(4), 20);
         due("the first n", t.joined(2, -1), 1);
         due("nothing is changed", t.half(0, 10), -2);
+        // one that gets both facts, but for the last of them: 0
+        t = three("c1(1=1)");
+        t.learns(0, 0, true);
+        t.learns(1, 0, true);
+        t.learns(2, 0, false);
+        t.learns(0, 1, true);
+        t.learns(1, 1, false);
+        t.learns(2, 1, true);
+        due("both", joined(t, -1, 0, 1, 2), 2);
+        due("row", joined(t, 0, 0, 1, 2), 1);
+        due("row", joined(t, 1, 0, 1, 2), 2);
+        due("row", joined(t, 2, 0, 1, 2), 0);
         // e by the numbers: the elder one of those that have joined, as it is now
         t = three("e(j=0&y=2)");
         t.learns(0, 4, true);
@@ -1036,6 +1099,17 @@ public final class PromiseTests {
         due("the same one: 4 is as much", t.chosen(0, 1, 0), 3);
         due("first", t.chosen(0, 1, 1), 0);
         due("first", t.chosen(0, 1, 2), 0);
+        law(t, "c9(r=0);c4(r=1&j=0);c5(r=1)");
+        due("half of 9 is less than 5", t.chosen(0, 1, 0), 2);
+        due("of 4 it is not", t.chosen(0, 1, 2), 1);
+        law(t, "c4(r=0);c8(r=1&j=0);c9(r=1)");
+        due("half of 8 is as much as 4", t.chosen(0, 1, 0), 3);
+        law(t, "c3(r=0);c7(r=1)");
+        due("half of 7 is as much as 3", t.chosen(0, 1, 0), 3);
+        law(t, "c2(r=0);c7(r=1)");
+        due("half of 7 is more than 2", t.chosen(0, 1, 0), 1);
+        law(t, "c4(r=0);c7(r=1)");
+        due("half of 7 is less than 4", t.chosen(0, 1, 0), 2);
         law(t, "c9(r=0&j=0);c1(r=2&j=1)");
         due("one", t.chosen(0, 1, 0), 1);
         due("one", t.chosen(0, 1, 1), 0);
@@ -1328,6 +1402,18 @@ public final class PromiseTests {
         promise = "promises 28, 29";
         ForkTown t = diamond("c9(1=1);w1(p<3)");
         due("none kept", t.undo(), false);
+        t.keep();
+        t.comes(0, 0);
+        t.learns(0, 0, true);
+        t.undo();
+        due("nobody", t.half(0, 0), -1);
+        t.comes(0, 0);
+        due("knows nothing", t.half(0, 20), -2);
+        t.hours(1);
+        t.learns(1, 0, false);
+        t.hours(3);
+        due("knows what the other one knew", t.half(0, 20), 0);
+        t.undo();
         t.comes(0, 0);
         due("kept", t.keep(), 1);
         t.learns(0, 1, true);
@@ -1397,6 +1483,9 @@ public final class PromiseTests {
         due("of one that does not live 0", t.check(3), -1);
         feed(t, new int[80]);
         due("twenty", t.check(20), 0);
+        feed(t, new int[100]);
+        due("no n", t.check(21), -2);
+        due("the tape stays", t.count(4), 100);
     }
 
     private static void counting() {
