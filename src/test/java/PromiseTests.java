@@ -1170,7 +1170,7 @@ public final class PromiseTests {
             t.hours(48);
         }
         due("hour", t.count(0), 288);
-        due("two bytes", whoWas(t, 0, 280, 3), 2);
+        due("two bytes", whoWas(t, 0, 288, 3), 2);
         due("two bytes", whoWas(t, 0, 280 - 256, 3), -2);
     }
 
