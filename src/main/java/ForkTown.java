@@ -833,7 +833,7 @@ public final class ForkTown {
 
         /** The hour that begins now is written over the one that is remembered no more. */
         void remember(People people) {
-            int row = Math.floorMod(people.hour, MOST_HOURS) * HALVES;
+            int row = people.hour % MOST_HOURS * HALVES;
             for (int j = 0; j < HALVES; j++) {
                 where[row + j] = people.isAtPlace(j) ? people.all[j].place : NOTHING;
             }
@@ -1553,7 +1553,7 @@ public final class ForkTown {
                 }
                 int asked = passage.doubtsAsked & forks;
                 // Doubts below the lowest place at which one was asked for would change nothing.
-                bits |= asked == 0 ? forks : forks & (Integer.lowestOneBit(asked) - 1);
+                bits |= asked == 0 ? forks : forks & ((asked & -asked) - 1);
                 bits = (bits - forks) & forks;
                 if (bits == 0) {
                     return;
