@@ -1,78 +1,6 @@
 /** For each promise of the document: ordinary calls, the edges it names, and wrong inputs. */
-public final class PromiseTests {
-    private static int wrong = 0;
-    private static int asked = 0;
-    private static String promise = "";
-
+public final class PromiseTests extends TownTest {
     private PromiseTests() {
-    }
-
-    private static void due(String what, long got, long want) {
-        asked++;
-        if (got != want) {
-            wrong++;
-            System.out.println(promise + ": " + what + " answered " + got + ", due is " + want);
-        }
-    }
-
-    private static void due(String what, boolean got, boolean want) {
-        due(what, got ? 1 : 0, want ? 1 : 0);
-    }
-
-    private static void feed(ForkTown t, int... bytes) {
-        for (int i = 0; i < bytes.length; i += 20) {
-            int[] w = new int[5];
-            for (int k = 0; k < 20; k++) {
-                w[k / 4] = w[k / 4] << 8 | (i + k < bytes.length ? bytes[i + k] & 255 : 0);
-            }
-            t.feed(w[0], w[1], w[2], w[3], w[4]);
-        }
-    }
-
-    private static int law(ForkTown t, String text) {
-        feed(t, text.chars().toArray());
-        return t.law(text.length());
-    }
-
-    private static int history(ForkTown t, int j, String text) {
-        feed(t, text.chars().toArray());
-        return t.history(j, text.length());
-    }
-
-    private static int joined(ForkTown t, int what, int... halves) {
-        feed(t, halves);
-        return t.joined(halves.length, what);
-    }
-
-    /** Hours and places in turn. */
-    private static int whoWas(ForkTown t, int what, int... seen) {
-        int[] bytes = new int[seen.length / 2 * 3];
-        for (int i = 0; i < seen.length / 2; i++) {
-            bytes[3 * i] = seen[2 * i] >> 8;
-            bytes[3 * i + 1] = seen[2 * i];
-            bytes[3 * i + 2] = seen[2 * i + 1];
-        }
-        feed(t, bytes);
-        return t.whoWas(seen.length / 2, what);
-    }
-
-    /** A new town with a law and roads: number, from, to, length. */
-    private static ForkTown town(String text, int... roads) {
-        ForkTown t = new ForkTown();
-        for (int i = 0; i + 3 < roads.length; i += 4) {
-            if (!t.road(roads[i], roads[i + 1], roads[i + 2], roads[i + 3])) {
-                throw new IllegalStateException("no such road");
-            }
-        }
-        if (!text.isEmpty() && law(t, text) < 0) {
-            throw new IllegalStateException("no such law: " + text);
-        }
-        return t;
-    }
-
-    /** Two ways from 0 to 3, over 1 and over 2, equally long. */
-    private static ForkTown diamond(String text) {
-        return town(text, 0, 0, 1, 1, 1, 0, 2, 1, 2, 1, 3, 1, 3, 2, 3, 1);
     }
 
     public static void main(String[] args) {
@@ -114,14 +42,11 @@ public final class PromiseTests {
         keeping();
         checking();
         counting();
-        System.out.println(asked + " answers asked for, " + wrong + " are not as due");
-        if (wrong != 0) {
-            System.exit(1);
-        }
+        end();
     }
 
     private static void newObject() {
-        promise = "promise 1";
+        about("promise 1");
         ForkTown t = new ForkTown();
         due("hour", t.count(0), 0);
         due("been", t.count(1), 0);
@@ -143,7 +68,7 @@ public final class PromiseTests {
     }
 
     private static void roads() {
-        promise = "promise 2";
+        about("promise 2");
         ForkTown t = new ForkTown();
         due("told", t.road(31, 15, 0, 9), true);
         due("from", t.count(51), 15);
@@ -176,7 +101,7 @@ public final class PromiseTests {
     }
 
     private static void notices() {
-        promise = "promise 3";
+        about("promise 3");
         ForkTown t = new ForkTown();
         due("so", t.notice(15, 15, true), true);
         due("told", t.count(155), 115);
@@ -192,7 +117,7 @@ public final class PromiseTests {
     }
 
     private static void comings() {
-        promise = "promise 4";
+        about("promise 4");
         ForkTown t = new ForkTown();
         due("first", t.comes(3, 15), 0);
         due("lives", t.comes(3, 0), -1);
@@ -224,7 +149,7 @@ public final class PromiseTests {
     }
 
     private static void learning() {
-        promise = "promise 5";
+        about("promise 5");
         ForkTown t = new ForkTown();
         due("nobody", t.learns(0, 0, true), false);
         t.comes(0, 0);
@@ -245,7 +170,7 @@ public final class PromiseTests {
     }
 
     private static void owing() {
-        promise = "promise 6";
+        about("promise 6");
         ForkTown t = new ForkTown();
         due("nobody", t.owes(0, 0), false);
         t.comes(0, 0);
@@ -262,7 +187,7 @@ public final class PromiseTests {
     }
 
     private static void feeding() {
-        promise = "promise 7";
+        about("promise 7");
         ForkTown t = new ForkTown();
         for (int i = 1; i <= 13; i++) {
             due("feed", t.feed(0, 0, 0, 0, 0), 20 * i);
@@ -279,7 +204,7 @@ public final class PromiseTests {
     }
 
     private static void lawTexts() {
-        promise = "promise 8";
+        about("promise 8");
         ForkTown t = new ForkTown();
         due("no tape", t.law(1), -1);
         feed(t, "c9(1=1)".chars().toArray());
@@ -331,7 +256,7 @@ public final class PromiseTests {
     }
 
     private static void lawFaults() {
-        promise = "promise 8, faults";
+        about("promise 8, faults");
         ForkTown t = new ForkTown();
         String[] texts = {"a", "h5(1=1)", "c", "c(1=1)", "c5", "c5(", "c5()", "c5(1)", "c5(1=)", "c5(1=1", "c5(1=1);", "c5(1=1)c",
             "e5(1=1)", "e", "e(", "c5(1=1)x", "c5(1==1)", "c5((1=1)", "c5((1)=1)", "c5(1=1))", "c-5(1=1)", "c5(1=1|)", "c5(1=1&)",
@@ -390,7 +315,7 @@ public final class PromiseTests {
     }
 
     private static void lawAsked() {
-        promise = "promise 8, asked";
+        about("promise 8, asked");
         due("h", glad("ch(1=1)"), 9);
         due("i", glad("ci(1=1)"), 2);
         due("j", glad("cj(1=1)"), 1);
@@ -444,7 +369,7 @@ public final class PromiseTests {
     }
 
     private static void hoursGoing() {
-        promise = "promise 9";
+        about("promise 9");
         ForkTown t = town("c5(1=1)", 0, 0, 1, 1, 1, 1, 2, 9);
         due("nobody", t.hours(1), 0);
         due("hour", t.count(0), 1);
@@ -491,7 +416,7 @@ public final class PromiseTests {
     }
 
     private static void hoursWaiting() {
-        promise = "promise 9, waiting";
+        about("promise 9, waiting");
         ForkTown t = town("c5(1=1);w2(p=1)", 0, 0, 1, 1, 1, 1, 2, 1);
         t.comes(0, 0);
         t.hours(2);
@@ -510,7 +435,7 @@ public final class PromiseTests {
     }
 
     private static void hoursDying() {
-        promise = "promise 9, dying";
+        about("promise 9, dying");
         // x: draws 0 .. 9 from the seed 1 on
         int x = 1;
         ForkTown t = town("x5(1=1)");
@@ -564,7 +489,7 @@ public final class PromiseTests {
     }
 
     private static void hoursParting() {
-        promise = "promise 9, parting";
+        about("promise 9, parting");
         ForkTown t = town("c9-r(1=1);d2(1=1)", 1, 0, 1, 2, 3, 0, 2, 3, 4, 0, 3, 1);
         t.comes(0, 0);
         t.learns(0, 3, true);
@@ -632,7 +557,7 @@ public final class PromiseTests {
     }
 
     private static void hoursMerging() {
-        promise = "promise 9, merging";
+        about("promise 9, merging");
         ForkTown t = diamond("c9(1=1)");
         t.comes(0, 0);
         t.hours(1);
@@ -714,7 +639,7 @@ public final class PromiseTests {
     }
 
     private static void hoursArriving() {
-        promise = "promise 9, arriving";
+        about("promise 9, arriving");
         ForkTown t = town("c9(1=1);b3+m(1=1);w1(o>3)", 0, 0, 1, 1, 1, 1, 0, 1);
         t.notice(1, 7, true);
         t.comes(0, 0);
@@ -748,7 +673,7 @@ public final class PromiseTests {
     }
 
     private static void trying() {
-        promise = "promise 10";
+        about("promise 10");
         ForkTown t = diamond("c9(1=1);b4(1=1);x1(p=9)");
         t.comes(0, 0);
         t.comes(3, 9);
@@ -790,7 +715,7 @@ public final class PromiseTests {
     }
 
     private static void halfTold() {
-        promise = "promise 11";
+        about("promise 11");
         ForkTown t = diamond("c9(1=1)");
         t.hours(3);
         t.comes(2, 0);
@@ -816,7 +741,7 @@ public final class PromiseTests {
     }
 
     private static void gladness() {
-        promise = "promise 12";
+        about("promise 12");
         ForkTown t = town("c5+r(1=1)", 0, 0, 1, 2, 1, 2, 0, 1, 2, 0, 2, 1);
         due("nobody", t.gladly(0, 0), -1);
         t.comes(0, 0);
@@ -836,7 +761,7 @@ public final class PromiseTests {
     }
 
     private static void halvesBits() {
-        promise = "promise 13";
+        about("promise 13");
         ForkTown t = town("x10(i=0)");
         for (int j = 0; j < 36; j++) {
             t.comes(0, 1);
@@ -855,7 +780,7 @@ public final class PromiseTests {
     }
 
     private static void whereWas() {
-        promise = "promise 14";
+        about("promise 14");
         ForkTown t = diamond("c9(1=1);w1(p<3)");
         due("no half", t.was(0, 0), -1);
         t.hours(2);
@@ -889,7 +814,7 @@ public final class PromiseTests {
     }
 
     private static void allForks() {
-        promise = "promise 15";
+        about("promise 15");
         ForkTown t = town("", 0, 0, 1, 1, 1, 0, 1, 1, 2, 1, 0, 1, 3, 1, 0, 1);
         for (int n = 0; n < 61; n++) {
             due("two to the n", t.byForks(0, n), 1L << n);
@@ -912,7 +837,7 @@ public final class PromiseTests {
     }
 
     private static void planning() {
-        promise = "promise 16";
+        about("promise 16");
         ForkTown t = diamond("c9-r(1=1);d50(1=1);x10(1=1)");
         t.comes(0, 0);
         due("hours", t.plan(0, 14, 9, 0), 3);
@@ -952,7 +877,7 @@ public final class PromiseTests {
     }
 
     private static void planningMore() {
-        promise = "promise 16, more";
+        about("promise 16, more");
         // nine forks in a row: only at the lowest eight of them one can doubt
         ForkTown t = new ForkTown();
         for (int p = 0; p < 9; p++) {
@@ -1009,19 +934,8 @@ public final class PromiseTests {
         due("the second alone", t.plan(0, 1 << 5, 20, 1), 8);
     }
 
-    /** A one of three halves, on roads: 0, 1, 2. */
-    private static ForkTown three(String text) {
-        ForkTown t = town("c9(1=1)", 0, 0, 1, 1, 1, 0, 2, 9, 2, 1, 3, 9, 3, 1, 4, 9);
-        t.comes(0, 0);
-        t.hours(2);
-        if (!text.isEmpty()) {
-            law(t, text);
-        }
-        return t;
-    }
-
     private static void joining() {
-        promise = "promise 17";
+        about("promise 17");
         ForkTown t = three("c1(1=1)");
         due("no tape", t.joined(2, -1), -1);
         t.learns(0, 0, true);
@@ -1087,7 +1001,7 @@ public final class PromiseTests {
     }
 
     private static void choosing() {
-        promise = "promise 18";
+        about("promise 18");
         ForkTown t = town("c9(r=0);c8(r=1);c3(r=2)", 0, 0, 1, 1, 1, 0, 2, 1, 2, 0, 3, 1, 3, 0, 4, 1);
         t.comes(0, 0);
         t.comes(1, 0);
@@ -1135,7 +1049,7 @@ public final class PromiseTests {
     }
 
     private static void whoItWas() {
-        promise = "promise 19";
+        about("promise 19");
         ForkTown t = diamond("c9(1=1);w1(p<3)");
         t.comes(0, 0);
         t.comes(1, 0);
@@ -1175,7 +1089,7 @@ public final class PromiseTests {
     }
 
     private static void meeting() {
-        promise = "promise 20";
+        about("promise 20");
         ForkTown t = town("c9(1=1)", 0, 0, 1, 2, 1, 0, 2, 2, 2, 1, 3, 1, 3, 2, 3, 1, 4, 2, 4, 1);
         due("none lives", t.meet(0), 65535);
         t.comes(0, 0);
@@ -1190,7 +1104,7 @@ public final class PromiseTests {
     }
 
     private static void building() {
-        promise = "promise 21";
+        about("promise 21");
         ForkTown t = new ForkTown();
         due("none", t.built(0), 0);
         due("none", t.built(1), 0);
@@ -1218,7 +1132,7 @@ public final class PromiseTests {
     }
 
     private static void closing() {
-        promise = "promise 22";
+        about("promise 22");
         ForkTown t = town("", 0, 0, 1, 1, 1, 0, 2, 1, 2, 1, 3, 1, 3, 2, 3, 1, 4, 3, 4, 1);
         due("both", t.closed(0, 3, 0), 2);
         due("both", t.closed(0, 3, 1), 6);
@@ -1256,7 +1170,7 @@ public final class PromiseTests {
     }
 
     private static void histories() {
-        promise = "promise 23";
+        about("promise 23");
         ForkTown t = diamond("c9(1=1);w1(p<3)");
         due("no half", history(t, 0, "0@0"), -1);
         due("the tape stays", t.count(4), 20);
@@ -1298,7 +1212,7 @@ public final class PromiseTests {
     }
 
     private static void kinship() {
-        promise = "promise 24";
+        about("promise 24");
         ForkTown t = three("");
         t.comes(1, 9);
         due("itself", t.kin(0, 0, 0), 1);
@@ -1329,7 +1243,7 @@ public final class PromiseTests {
     }
 
     private static void breadShared() {
-        promise = "promise 25";
+        about("promise 25");
         ForkTown t = three("");
         // weights 1024, 2048, 1024
         due("whole", t.bread(0, 4), 1);
@@ -1359,7 +1273,7 @@ public final class PromiseTests {
     }
 
     private static void voting() {
-        promise = "promise 26";
+        about("promise 26");
         ForkTown t = three("");
         t.learns(0, 9, true);
         t.learns(1, 9, false);
@@ -1382,7 +1296,7 @@ public final class PromiseTests {
     }
 
     private static void seeds() {
-        promise = "promise 27";
+        about("promise 27");
         ForkTown t = new ForkTown();
         due("most", t.seed(65535), true);
         due("x", t.count(5), 65535);
@@ -1399,7 +1313,7 @@ public final class PromiseTests {
     }
 
     private static void keeping() {
-        promise = "promises 28, 29";
+        about("promises 28, 29");
         ForkTown t = diamond("c9(1=1);w1(p<3)");
         due("none kept", t.undo(), false);
         t.keep();
@@ -1459,7 +1373,7 @@ public final class PromiseTests {
     }
 
     private static void checking() {
-        promise = "promise 30";
+        about("promise 30");
         ForkTown t = three("");
         due("none", t.check(0), -1);
         feed(t, 0, 0, 4, 0, 0, 0, 8, 0, 0, 0, 4, 0, 0, 0, 0, 0);
@@ -1489,7 +1403,7 @@ public final class PromiseTests {
     }
 
     private static void counting() {
-        promise = "promise 31";
+        about("promise 31");
         ForkTown t = diamond("c9(1=1);e(1=2)");
         t.comes(0, 0);
         t.hours(1);
