@@ -19,6 +19,7 @@ public final class BoundsOfAnswers extends TownTest {
         joinedClash();
         joinedAsTheyAreNow();
         joinedLeastRow();
+        joinedRows();
         chosenAboveNone();
         chosenRoundedDown();
         chosenNoneGainsMore();
@@ -36,6 +37,7 @@ public final class BoundsOfAnswers extends TownTest {
         historyRemembered();
         breadByWeight();
         breadRests();
+        breadOfOne();
         voteByWeight();
         checkedWeights();
         callsTo512();
@@ -181,6 +183,11 @@ public final class BoundsOfAnswers extends TownTest {
             due(below + " below", atFork(below).plan(1, 1 << 10, 9, 1), 1 << 8);
             due(below + " below", atFork(below).plan(1, 1 << 9, 9, 1), 0);
         }
+        ForkTown t = atFork(7);
+        t.road(14, 7, 12, 1);
+        due("one road alone does not count", t.plan(1, 1 << 10, 9, 1), 1 << 8);
+        t.road(15, 7, 12, 2);
+        due("two roads to one place do", t.plan(1, 1 << 10, 9, 0), -2);
         due("the ninth", atFork(8).plan(1, 1 << 10, 9, 0), -2);
         due("the ninth, no doubt needed", atFork(8).plan(1, 1 << 9, 9, 0), 2);
     }
@@ -255,6 +262,13 @@ public final class BoundsOfAnswers extends TownTest {
         int hours = t.plan(0, 1 << 4, 48, 0);
         due("soonest", t.plan(0, 1 << 4, hours - 1, 0), -2);
         due("no doubt at all", t.plan(0, 1 << 3, 48, 1), 0);
+        // place 8 is come to by doubt at 1 in 3 and as many hours as the road is long, by doubt at 2 in 5
+        for (int length = 1; length <= 9; length++) {
+            t = with("c9-r%2(1=1)", 0, 0, 1, 1, 2, 1, 2, 1, 3, 1, 8, length, 4, 2, 9, 1, 5, 2, 8, 1, 6, 8, 9, 1);
+            due("fewest", t.plan(0, 1 << 8, 48, 0), Math.min(3 + length, 5));
+            due("least bits of the fewest", t.plan(0, 1 << 8, 48, 1), length <= 2 ? 2 : 4);
+            due("just in time", t.plan(0, 1 << 8, Math.min(3 + length, 5), 1), length <= 2 ? 2 : 4);
+        }
     }
 
     private static void planNobodyDies() {
@@ -301,15 +315,17 @@ public final class BoundsOfAnswers extends TownTest {
         about("JOINED: what both know otherwise is FORGOTTEN, till another one knows it");
         for (int n = 2; n <= 5; n++) {
             for (int bits = 0; bits < 1 << n; bits++) {
-                ForkTown t = five("c1(1=1)");
-                int[] row = new int[n];
-                for (int j = 0; j < n; j++) {
-                    row[j] = j;
-                    t.learns(j, 7, (bits >> j & 1) != 0);
-                }
                 // with no e a fact is known in the end if all agree, or if two clash and a third comes behind them
                 boolean same = bits == 0 || bits == (1 << n) - 1;
-                due(n + " by " + bits, joined(t, -1, row), same || n > 2 ? 1 : 0);
+                for (int fact : new int[] {0, 7, 15}) {
+                    ForkTown t = five("c1(1=1)");
+                    int[] row = new int[n];
+                    for (int j = 0; j < n; j++) {
+                        row[j] = j;
+                        t.learns(j, fact, (bits >> j & 1) != 0);
+                    }
+                    due(n + " by " + bits, joined(t, -1, row), same || n > 2 ? 1 : 0);
+                }
             }
         }
     }
@@ -369,6 +385,29 @@ public final class BoundsOfAnswers extends TownTest {
         }
     }
 
+    private static void joinedRows() {
+        about("JOINED: in which order most FACTS are known in the end: the last two and the first may change places");
+        int[][] due = {{0, 1, 2}, {0, 1, 2}, {0, 2, 1}};
+        for (int odd = 0; odd < 3; odd++) {
+            ForkTown t = five("c1(1=1)");
+            int other = (odd + 1) % 3;
+            for (int j = 0; j < 3; j++) {
+                t.learns(j, 0, j != odd);
+            }
+            due("fact 0", joined(t, -1, 2, 1, 0), 1);
+            for (int i = 0; i < 3; i++) {
+                due(odd + " must be among the first two, place " + i, joined(t, i, 2, 1, 0), due[odd][i]);
+            }
+            for (int j = 0; j < 3; j++) {
+                t.learns(j, 1, j == other);
+            }
+            due("both facts", joined(t, -1, 0, 1, 2), 2);
+            due("both must be, place 0", joined(t, 0, 0, 1, 2), Math.min(odd, other));
+            due("both must be, place 1", joined(t, 1, 0, 1, 2), Math.max(odd, other));
+            due("both must be, place 2", joined(t, 2, 0, 1, 2), 3 - odd - other);
+        }
+    }
+
     /** Two ONES at place 0, with three roads from there. */
     private static ForkTown choosing(String text) {
         ForkTown t = town(text, 0, 0, 1, 1, 1, 0, 2, 1, 31, 0, 3, 1, 9, 4, 0, 1);
@@ -405,6 +444,11 @@ public final class BoundsOfAnswers extends TownTest {
 
     private static void chosenNoneGainsMore() {
         about("ROADS CHOSEN: twos at which neither gains more by another ROAD of its own alone: how many; the first");
+        for (int i = 0; i < 2; i++) {
+            due("the one gains more by 1 above half", choosing("c9(r=0);c5(r=1&i=" + i + ");c4(r=1)").chosen(0, 1, 0), 2);
+            due("the one gains no more by half", choosing("c9(r=0);c4(r=1&i=" + i + ")").chosen(0, 1, 0), 2);
+            due("the one gains more", choosing("c9(r=0);c5(r=1&i=" + i + ")").chosen(0, 1, 0), 1);
+        }
         due("as much is not more", choosing("c8(r=0);c4(r=1)").chosen(0, 1, 0), 3);
         due("the first", choosing("c8(r=0);c4(r=1)").chosen(0, 1, 2), 0);
         due("one more is more", choosing("c8(r=0);c5(r=1)").chosen(0, 1, 0), 2);
@@ -480,6 +524,12 @@ public final class BoundsOfAnswers extends TownTest {
 
     private static void builtGroups() {
         about("BUILT: groups of PLACES from which one does not come out again, less 1");
+        for (int p = 0; p < 16; p++) {
+            ForkTown one = town("", 0, (p + 1) % 16, p, 1);
+            due("one group", one.built(1), 1);
+            due("less 1", one.built(0), 0);
+            due("place " + p + " alone", one.built(2), 1 << p);
+        }
         ForkTown t = new ForkTown();
         for (int p = 0; p < 16; p += 2) {
             t.road(p, p, p + 1, 1);
@@ -668,6 +718,38 @@ public final class BoundsOfAnswers extends TownTest {
                 due(loaves + " of like ones, half " + j, t.bread(j, loaves), loaves / 4 + (j < loaves % 4 ? 1 : 0));
             }
         }
+    }
+
+    private static void breadOfOne() {
+        about("BREAD of a ONE: to its HALVES that LIVE");
+        ForkTown t = three("x10(j=1)");
+        for (int one = 1; one < 4; one++) {
+            t.comes(one, one + 5);
+        }
+        due("others have none of it", t.bread(0, 1) + t.bread(1, 1) + t.bread(2, 1), 1);
+        due("of like rests the lowest", t.bread(0, 2), 1);
+        due("the other one all of its own", t.bread(4, 999), 999);
+        t.hours(10);
+        due("one is dead", t.half(1, 3), 0);
+        due("of two like ones", t.bread(0, 5), 3);
+        due("of two like ones", t.bread(2, 5), 2);
+        // a ONE of whom a WEIGHT of 1 is left
+        t = town("c9(1=1)");
+        for (int p = 0; p < 12; p++) {
+            t.road(2 * p, p, p + 1, 1);
+            t.road(2 * p + 1, p, 15, 9);
+        }
+        t.comes(0, 0);
+        t.hours(12);
+        due("1 and 1", t.half(0, 4), 1);
+        due("of 4096", t.bread(0, 999), 0);
+        due("of 4096, with 2 and 3", t.bread(1, 999), 874);
+        law(t, "x10(j>0)");
+        t.hours(20);
+        due("one lives", t.count(2), 1);
+        due("its weight", t.half(0, 4), 1);
+        due("all is its own", t.bread(0, 1), 1);
+        due("all is its own", t.bread(0, 999), 999);
     }
 
     private static void voteByWeight() {

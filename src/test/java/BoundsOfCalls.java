@@ -190,6 +190,13 @@ public final class BoundsOfCalls extends TownTest {
         refused("lives on roads alone", FULL, -1, u -> u.comes(2, 0));
         ForkTown t = fullTown();
         due("none of it lives", t.comes(1, 0), 9);
+        int[] told = {1, -2, 6, 1, 4096, 0, -2, 0, 0, 0, -2};
+        for (int what = 0; what < told.length; what++) {
+            due("what " + what, t.half(9, what), told[what]);
+        }
+        for (int f = 0; f < 16; f++) {
+            due("knows nothing", t.half(9, 20 + f), -2);
+        }
         due("the dead one stays dead", t.half(1, 3), 0);
     }
 

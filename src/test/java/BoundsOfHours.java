@@ -404,23 +404,27 @@ public final class BoundsOfHours extends TownTest {
         }
     }
 
+    /** One who knows a fact so (-1: not) comes to a NOTICE of it (-1: none). */
+    private static void comesToNotice(int fact, int before, int so) {
+        ForkTown t = with("c9(p=0)", 0, 0, 1, 1);
+        t.notice(1, so < 0 ? -1 : fact, so == 1);
+        t.notice(0, 3, true);
+        t.hours(1);
+        tell(t, 0, fact, before);
+        t.hours(1);
+        due("known", t.half(0, 20 + fact), so >= 0 ? so : before < 0 ? -2 : before);
+        due("not where it came to in no hour", t.half(0, 23), -2);
+        t.notice(1, 14, true);
+        t.hours(9);
+        due("not of one that stays", t.half(0, 34), -2);
+    }
+
     private static void noticeKnown() {
         about("AN HOUR (3): of those that came (or with which one merged that came): a NOTICE there is known (as it stands there)");
         for (int before = -1; before < 2; before++) {
             for (int so = -1; so < 2; so++) {
-                ForkTown t = with("c9(p=0)", 0, 0, 1, 1);
-                if (so >= 0) {
-                    t.notice(1, 15, so == 1);
-                }
-                t.notice(0, 3, true);
-                t.hours(1);
-                tell(t, 0, 15, before);
-                t.hours(1);
-                due("known", t.half(0, 35), so >= 0 ? so : before < 0 ? -2 : before);
-                due("not where it came to in no hour", t.half(0, 23), -2);
-                t.notice(1, 14, true);
-                t.hours(9);
-                due("not of one that stays", t.half(0, 34), -2);
+                comesToNotice(0, before, so);
+                comesToNotice(15, before, so);
             }
         }
         // one that stayed there knows it by the one that came, be its number higher or lower

@@ -343,6 +343,18 @@ public final class BoundsOfLaw extends TownTest {
             due(letters.charAt(i) + "", holds(letters.charAt(i) + "=" + due[i]), true);
             due("two of it", holds("2*" + letters.charAt(i) + "=" + 2 * due[i]), true);
         }
+        ForkTown t = with("c9(p=0)", 0, 0, 1, 2, 1, 0, 2, 2, 2, 2, 3, 1);
+        t.hours(4);
+        law(t, "ck(1=1)");
+        due("k of one born at 0", t.gladly(1, 2), 4);
+        ForkTown late = with("");
+        late.hours(40);
+        late.comes(1, 0);
+        late.road(0, 0, 1, 1);
+        late.hours(7);
+        law(late, "ck(i=1);ch(i=0)");
+        due("k of one born at 40", late.gladly(1, 0), 7);
+        due("h", late.gladly(0, 0), 47);
         for (char c = 0; c < 256; c++) {
             if (letters.indexOf(c) < 0 && (c < '0' || c > '9') && c != '[') {
                 due("no letter: " + (int) c, law(new ForkTown(), "c" + c + "(1=1)"), -1001);
