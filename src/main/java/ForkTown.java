@@ -1536,6 +1536,10 @@ public final class ForkTown {
                 hours = 0;
                 return;
             }
+            // What no road leads to is never come to: the tries, which are dear, can be spared.
+            if ((wanted & ~net.reach(half.place, 0)) != 0) {
+                return;
+            }
             int forks = net.forkPlaces();
             int bits = 0;
             int limit = n;

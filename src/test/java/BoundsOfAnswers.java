@@ -20,6 +20,7 @@ public final class BoundsOfAnswers extends TownTest {
         joinedAsTheyAreNow();
         joinedLeastRow();
         joinedRows();
+        joinedNotLast();
         chosenAboveNone();
         chosenRoundedDown();
         chosenNoneGainsMore();
@@ -188,6 +189,16 @@ public final class BoundsOfAnswers extends TownTest {
         due("one road alone does not count", t.plan(1, 1 << 10, 9, 1), 1 << 8);
         t.road(15, 7, 12, 2);
         due("two roads to one place do", t.plan(1, 1 << 10, 9, 0), -2);
+        t = with("c9-r%2(1=1)", 31, 0, 15, 1, 24, 9, 12, 1, 25, 9, 13, 1, 26, 12, 14, 1, 28, 13, 14, 1);
+        for (int p = 1; p < 8; p++) {
+            t.road(2 * p, p, 15, 1);
+            t.road(2 * p + 1, p, 14, 1);
+        }
+        t.comes(1, 9);
+        due("seven, one road alone, and the eighth", t.plan(1, 1 << 13, 9, 1), 1 << 9);
+        t.road(0, 8, 15, 1);
+        t.road(1, 8, 14, 1);
+        due("eight, one road alone, and the ninth", t.plan(1, 1 << 13, 9, 1), -2);
         due("the ninth", atFork(8).plan(1, 1 << 10, 9, 0), -2);
         due("the ninth, no doubt needed", atFork(8).plan(1, 1 << 9, 9, 0), 2);
     }
@@ -405,6 +416,28 @@ public final class BoundsOfAnswers extends TownTest {
             due("both must be, place 0", joined(t, 0, 0, 1, 2), Math.min(odd, other));
             due("both must be, place 1", joined(t, 1, 0, 1, 2), Math.max(odd, other));
             due("both must be, place 2", joined(t, 2, 0, 1, 2), 3 - odd - other);
+        }
+    }
+
+    private static void joinedNotLast() {
+        about("JOINED: who alone knows a FACT otherwise must not be the last one; of like ones the least row");
+        for (int n = 3; n <= 5; n++) {
+            for (int odd = 0; odd < n; odd++) {
+                // as many FACTS, each known otherwise by one of the highest
+                ForkTown t = five("c1(1=1)");
+                int[] told = new int[n];
+                for (int j = 0; j < n; j++) {
+                    told[j] = n - 1 - j;
+                    for (int k = 0; k < odd; k++) {
+                        t.learns(j, k, j == n - 1 - k);
+                    }
+                }
+                due("all known", joined(t, -1, told), odd);
+                for (int i = 0; i < n; i++) {
+                    int last = n - 1 - odd;
+                    due(n + " halves, " + odd + " facts, place " + i, joined(t, i, told), i == n - 1 ? last : i < last ? i : i + 1);
+                }
+            }
         }
     }
 

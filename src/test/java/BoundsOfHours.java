@@ -7,6 +7,7 @@ public final class BoundsOfHours extends TownTest {
         roadToldOtherwise();
         numbersGiven();
         upTo64();
+        with64();
         weightOfOne();
         weightRoundedUp();
         longWaiting();
@@ -30,6 +31,7 @@ public final class BoundsOfHours extends TownTest {
         goesWithoutWaiting();
         hourIsOneMore();
         keptThings();
+        undoneHalves();
         seedOfDraws();
         end();
     }
@@ -106,6 +108,79 @@ public final class BoundsOfHours extends TownTest {
         due("only one came", t.count(2), 1);
         t.hours(1);
         due("none parts", t.count(1), 64);
+    }
+
+    private static void with64() {
+        about("HALVES 0 to 63: all calls with 64 that have been");
+        for (int n = 1; n < 48; n += 23) {
+            ForkTown t = manyHalves();
+            int many = t.count(2);
+            due("live", t.tried(n, 0) > 0, true);
+            due("live", t.tried(n, 10), t.tried(n, 0));
+            due("weight", t.tried(n, 20), 4096);
+            due("coins", t.tried(n, 30), 0);
+            due("bits", Integer.bitCount(t.halves(0, 0)) + Integer.bitCount(t.halves(0, 1)) + Integer.bitCount(t.halves(0, 2))
+                + Integer.bitCount(t.halves(0, 3)), many);
+            due("the last one", t.half(63, 3), 1);
+            due("learns", t.learns(63, 0, true), true);
+            due("for", t.vote(0, 0, 0), t.half(63, 4));
+            due("against", t.vote(0, 0, 1), 0);
+            due("of many", t.bread(63, 999) < 999, true);
+            due("one line", t.kin(63, 0, 1), 0);
+            due("in common", t.kin(63, 62, 2) >= 0, true);
+            due("all places", t.meet(0), 65535);
+            due("not one", t.plan(0, 0, 1, 0), -1);
+            due("all were there", whoWas(t, 0, 0, 0), 64);
+            due("joined", joined(t, -1, 63, 62), 1);
+            due("checked", check(t, new int[20]) < 20, true);
+            due("none comes", t.comes(1, 0), -1);
+            due("kept", t.keep(), many);
+            due("hours", t.hours(n) > 0, true);
+            due("undone", t.undo(), true);
+            due("live", t.count(2), many);
+        }
+    }
+
+    private static void undoneHalves() {
+        about("UNDONE: HALVES that have been no more have no part in anything");
+        ForkTown t = with("c9(h<1)", 0, 0, 1, 1, 1, 0, 2, 1);
+        t.learns(0, 0, true);
+        t.owes(0, 7);
+        t.keep();
+        t.hours(1);
+        due("two", t.count(2), 2);
+        t.learns(1, 0, true);
+        t.undo();
+        due("one", t.count(2), 1);
+        due("in common: no such one", t.kin(0, 1, 2), -1);
+        due("bits", t.halves(0, 0), 1);
+        due("weight", t.vote(0, 0, 0), 4096);
+        due("not against", t.vote(0, 0, 1), 0);
+        due("all bread", t.bread(0, 3), 3);
+        due("seen", whoWas(t, 0, 0, 0), 1);
+        law(t, "x0(1=1)");
+        due("tried", t.tried(1, 10), 1);
+        due("weight", t.tried(1, 20), 4096);
+        due("coins", t.tried(1, 30), 7);
+        due("draws of one", drawsIn(t), 1);
+        due("a new one", t.comes(1, 4), 1);
+        due("of another ONE", t.half(1, 0), 1);
+        due("without parent", t.half(1, 1), -2);
+        due("without facts", t.half(1, 20), -2);
+        due("not there before", t.was(1, 0), -2);
+    }
+
+    /** How many draws an hour takes. */
+    private static int drawsIn(ForkTown t) {
+        long x = t.count(5);
+        t.hours(1);
+        for (int many = 0; many < 64; many++) {
+            if (x == t.count(5)) {
+                return many;
+            }
+            x = (25173 * x + 13849) % 65536;
+        }
+        return -1;
     }
 
     private static void weightOfOne() {
