@@ -10,6 +10,7 @@ public final class BoundsOfAnswers extends TownTest {
         forksBy64Bits();
         planPlacesOfDoubt();
         planLowestEight();
+        planAllEight();
         planWithinHours();
         planPlacesComeTo();
         planOneAgain();
@@ -203,6 +204,27 @@ public final class BoundsOfAnswers extends TownTest {
         due("the ninth, no doubt needed", atFork(8).plan(1, 1 << 9, 9, 0), 2);
     }
 
+    private static void planAllEight() {
+        about("A PLAN: PLACES of doubt, all eight of them");
+        // of each fork p the other road leads over 8 + p; who was not at 8 knows no FACT and stays at 7
+        ForkTown t = town("c9-r%2(p<7|p>7|m>0)");
+        t.notice(8, 0, true);
+        for (int p = 0; p < 8; p++) {
+            int next = p < 7 ? p + 1 : 8;
+            t.road(2 * p, p, next, 2);
+            t.road(2 * p + 1, p, 8 + p, 1);
+            t.road(16 + p, 8 + p, next, 1);
+        }
+        t.comes(0, 0);
+        due("hours", t.plan(0, 0xff00, 48, 0), 17);
+        due("doubts", t.plan(0, 0xff00, 48, 1), 255);
+        due("two at most", t.plan(0, 0xff00, 48, 2), 2);
+        due("just in time", t.plan(0, 0xff00, 17, 1), 255);
+        due("too late", t.plan(0, 0xff00, 16, 1), -2);
+        due("without 15", t.plan(0, 0x7f00, 48, 1), 127);
+        due("without 9 and 14", t.plan(0, 0xbd00, 48, 1), 255 - 2 - 64);
+    }
+
     private static void planWithinHours() {
         about("A PLAN: within n HOURS (1 to 48)");
         ForkTown t = with("c9(1=1)", 0, 0, 1, 9, 1, 1, 2, 9, 2, 2, 3, 9, 3, 3, 4, 9, 4, 4, 5, 6, 5, 5, 6, 1);
@@ -233,12 +255,17 @@ public final class BoundsOfAnswers extends TownTest {
         due("nowhere", t.plan(0, 1 << 15, 48, 0), -2);
         t.hours(3);
         due("where he was before", t.plan(0, 1, 40, 0), -2);
-        due("others do not count", with2().plan(0, 1 << 6, 40, 0), -2);
-        due("but his own", with2().plan(1, 1 << 6, 40, 0), 2);
+        for (int place : new int[] {0, 6, 15}) {
+            due("others do not count", twoWhoCome(place).plan(0, 1 << place, 40, 0), 10);
+            due("but his own", twoWhoCome(place).plan(1, 1 << place, 40, 0), 2);
+            due("others do not count, too late", twoWhoCome(place).plan(0, 1 << place, 9, 0), -2);
+        }
     }
 
-    private static ForkTown with2() {
-        ForkTown t = with("c9(1=1)", 0, 0, 1, 1, 1, 5, 6, 1);
+    /** ONE 0 has nine hours to a place, ONE 1 has one. */
+    private static ForkTown twoWhoCome(int place) {
+        ForkTown t = town("c9(1=1)", 0, 3, place, 9, 1, 5, place, 1);
+        t.comes(0, 3);
         t.comes(1, 5);
         return t;
     }
@@ -357,6 +384,10 @@ public final class BoundsOfAnswers extends TownTest {
                 due("by what it owes itself", joined(t, -1, b, a), 0);
             }
         }
+        ForkTown onRoads = five("e(p=0)");
+        onRoads.learns(1, 7, true);
+        onRoads.learns(2, 7, false);
+        due("on a ROAD p is not told: 0", joined(onRoads, -1, 1, 2), 1);
         // the group bears its lowest number, but is asked as that half is now: it knows one fact, not two
         ForkTown t = five("e(j=0&y=2&m=1)");
         t.learns(0, 7, true);
@@ -603,6 +634,14 @@ public final class BoundsOfAnswers extends TownTest {
         due("one of two", t.closed(0, 3, 1), 1 << 4);
         due("one of one", t.closed(0, 4, 1), 1 << 5);
         due("none of none", t.closed(0, 5, 0), -2);
+        // place 0 between, and as either end
+        t = town("", 0, 1, 0, 1, 1, 0, 3, 1, 2, 3, 2, 1, 3, 15, 8, 1, 4, 8, 0, 1, 5, 15, 9, 1, 6, 9, 0, 1);
+        due("place 0 of two", t.closed(1, 2, 0), 1);
+        due("place 0 of two", t.closed(1, 2, 1), 1);
+        due("to place 0", t.closed(15, 0, 0), 2);
+        due("to place 0", t.closed(15, 0, 1), 1 << 8 | 1 << 9);
+        due("from place 0", t.closed(0, 2, 1), 1 << 3);
+        due("over place 0, over which all go", t.closed(15, 3, 1), 1);
         // two by greater bits are worse than one by the greatest
         t = town("", 0, 0, 1, 1, 1, 0, 2, 1, 2, 1, 14, 1, 3, 2, 14, 1, 4, 14, 15, 1);
         due("one", t.closed(0, 15, 0), 1);

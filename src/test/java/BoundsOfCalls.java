@@ -908,6 +908,8 @@ public final class BoundsOfCalls extends TownTest {
         due("in common", fullTown().kin(6, 7, 2), 4);
         due("with itself", fullTown().kin(7, 7, 2), 7);
         due("with its parent", fullTown().kin(7, 4, 2), 4);
+        due("in common: half 0", fullTown().kin(3, 2, 2), 0);
+        due("in common: half 0 itself", fullTown().kin(0, 3, 2), 0);
         due("none", fullTown().kin(3, 7, 2), -2);
         for (int bad : beyond(0, 8)) {
             refused("half " + bad, FULL, -1, t -> t.kin(bad, 0, 0));
